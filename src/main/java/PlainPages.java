@@ -292,24 +292,25 @@ public final class PlainPages {
         }
 
         int get(int row, int column) {
-            int cell = cellOf(row, column);
-            return cell >= 0 && cell < cells.length ? cells[cell] : NONE;
+            if (row < 0 || row >= rows || column < 0 || column >= width) {
+                return NONE;
+            }
+            int cell = row * width + column;
+            return cell < cells.length ? cells[cell] : NONE;
         }
 
         void set(int row, int column, int value) {
-            int cell = cellOf(row, column);
-            if (cell >= 0 && cell < cells.length) {
+            if (row < 0 || row >= rows || column < 0 || column >= width) {
+                return;
+            }
+            int cell = row * width + column;
+            if (cell < cells.length) {
                 cells[cell] = value;
             }
         }
 
         void clear() {
             rows = 0;
-        }
-
-        private int cellOf(int row, int column) {
-            boolean there = row >= 0 && row < rows && column >= 0 && column < width;
-            return there ? row * width + column : NONE;
         }
     }
 

@@ -49,11 +49,17 @@ final class Desk {
     }
 
     static void feed(PlainPages pages, String bytes) {
+        int[] five = five(bytes);
+        pages.feed(five[0], five[1], five[2], five[3], five[4]);
+    }
+
+    /** The numbers that feed() takes for up to twenty bytes. */
+    static int[] five(String bytes) {
         int[] five = new int[5];
         for (int i = 0; i < bytes.length(); i++) {
             five[i / 4] |= (bytes.charAt(i) & 255) << (24 - 8 * (i % 4));
         }
-        pages.feed(five[0], five[1], five[2], five[3], five[4]);
+        return five;
     }
 
     /** How many nodes were read, or the exception's name. */

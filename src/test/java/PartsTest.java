@@ -19,6 +19,7 @@ public final class PartsTest {
         attributes(pages);
         signs(pages);
         behindOtherReads();
+        behindManyReads();
         Desk.close("PartsTest");
     }
 
@@ -87,6 +88,17 @@ public final class PartsTest {
         for (int i : new int[] {-1, want.length(), Integer.MIN_VALUE, Integer.MAX_VALUE}) {
             Desk.due(call + i + ")", pages.sign(k, j, value, i), -1);
         }
+    }
+
+    private static void behindManyReads() {
+        String attributes = " a=\"1\" b=\"2\" c=\"3\" d=\"4\"";
+        PlainPages pages = Desk.with("<x>" + ("<y" + attributes + ">t</y>").repeat(20) + "u</x>");
+        for (int i = 0; i < 100; i++) {
+            Desk.due("read()", Desk.read(pages), "42");
+            Desk.due("letter(41, 0)", pages.letter(41, 0), (int) 'u');
+            Desk.due("sign(39, 3, true, 0)", pages.sign(39, 3, true, 0), (int) '4');
+        }
+        Desk.due("about(2)", pages.about(2), 21);
     }
 
     private static void behindOtherReads() {

@@ -156,6 +156,7 @@ public final class ReadTest {
 
     private static void characters() {
         Desk.reads("<a>\t\n\r \u007f\"'>]]></a>", 2);
+        everyPrintable();
         for (String good : new String[] {"\u0080", "\u07ff", "\u0800", "\ud7ff", "\ue000", "\ufffd", "\ud800\udc00",
             "\ud83f\udffe", "\udbff\udfff"}) {
             PlainPages pages = Desk.reading("<a b=\"" + Desk.utf8(good) + "\">" + Desk.utf8(good) + "</a>");
@@ -167,13 +168,26 @@ public final class ReadTest {
         for (String wrong : new String[] {"\0", "\1", "\10", "\13", "\14", "\16", "\37", "\u0080", "\u00bf",
             "\u00c0\u0080", "\u00c1\u00bf", "\u00e0\u0080\u0080", "\u00e0\u009f\u00bf", "\u00ed\u00a0\u0080",
             "\u00ed\u00bf\u00bf", "\u00ef\u00bf\u00be", "\u00ef\u00bf\u00bf", "\u00f0\u008f\u00bf\u00bf",
-            "\u00f4\u0090\u0080\u0080", "\u00f5\u0080\u0080\u0080", "\u00f8\u0088\u0080\u0080\u0080", "\u00fe",
+            "\u00f4\u0090\u0080\u0080", "\u00f5\u0080\u0080\u0080", "\u00f8\u0090\u0080\u0080", "\u00f8\u0088\u0080\u0080\u0080",
+            "\u009f\u0080", "\u00bf\u00bf", "\u00fe",
             "\u00ff", "\u00e2\u0082", "\u00c3", "\u00c3(", "\u00f0\u009f\u0098", "\u00e2(\u00ac", "\u00c3\u00c0"}) {
             Desk.refused("<a>x|" + wrong + "</a>");
             Desk.refused("<a>x|" + wrong);
             Desk.refused("<a b=\"x|" + wrong + "\"/>");
             Desk.refused("<a b=\"|" + wrong);
         }
+    }
+
+    private static void everyPrintable() {
+        StringBuilder row = new StringBuilder();
+        for (char sign = ' '; sign < 127; sign++) {
+            row.append("<&\"".indexOf(sign) < 0 ? String.valueOf(sign) : "");
+        }
+        PlainPages pages = Desk.reading("<a b=\"" + row + "\">\"" + row + "</a>");
+        Desk.due("nodes", pages.about(1), 2);
+        Desk.due("node(1, 3)", pages.node(1, 3), row.length() + 1);
+        Desk.due("attribute(0, 0, 1)", pages.attribute(0, 0, 1), row.length());
+        Desk.due("plain(0)", Desk.plain(pages, 0), "\"" + row);
     }
 
     private static void references() {

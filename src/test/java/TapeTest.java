@@ -42,6 +42,20 @@ public final class TapeTest {
         Desk.due("end(2)", pages.end(2), 2);
         Desk.due("find() of zeros", pages.find(), -1);
         Desk.due("read() of zeros", Desk.read(pages), "IllegalArgumentException");
+        pages = Desk.reading("<x id=\"abcabc\"/>");
+        pages.wipe();
+        Desk.feed(pages, "abc");
+        Desk.due("end(3)", pages.end(3), 3);
+        Desk.due("end(3) of zeros", pages.end(3), 6);
+        Desk.due("find()", pages.find(), -1);
+        for (int i = 0; i < 3; i++) {
+            pages = Desk.reading("<x id=\"" + "abc".substring(0, i + 1).repeat(2) + "\"/>");
+            pages.wipe();
+            Desk.feed(pages, "abc");
+            pages.end(i + 1);
+            pages.end(i + 1);
+            Desk.due("find()", pages.find(), -1);
+        }
         pages = Desk.reading("<x id=\"ab\"/>");
         pages.wipe();
         Desk.feed(pages, "zz");
