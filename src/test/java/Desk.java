@@ -5,6 +5,8 @@ final class Desk {
     static final char MARK = '|';
     private static int passed = 0;
     private static int failed = 0;
+    private static String sentence = "";
+    private static int passedAtSentence = 0;
 
     private Desk() {
     }
@@ -15,11 +17,26 @@ final class Desk {
             return;
         }
         failed++;
-        System.out.println(call + " answered " + got + ", due is " + want);
+        System.out.println(sentence + call + " answered " + got + ", due is " + want);
+    }
+
+    /** What is tested from here on is a sentence of the document; one without a test is a failure. */
+    static void sentence(String words) {
+        endSentence();
+        sentence = "[" + words + "] ";
+        passedAtSentence = passed;
+    }
+
+    private static void endSentence() {
+        if (!sentence.isEmpty() && passed == passedAtSentence) {
+            failed++;
+            System.out.println(sentence + "has no test that passes");
+        }
     }
 
     /** The last call of a test's main. */
     static void close(String test) {
+        endSentence();
         System.out.println(test);
         System.out.println(passed + " passed, " + failed + " failed");
         if (failed != 0 || passed == 0) {
