@@ -14,12 +14,14 @@ public final class EdgesOfPagesTest {
         lists();
         items();
         inlines();
+        eachInEach();
         aInA();
         pre();
         code();
         nothing();
         whiteMayBe();
         idAnywhere();
+        onlyWhereTold();
         onA();
         onImg();
         onCode();
@@ -162,6 +164,60 @@ public final class EdgesOfPagesTest {
         notInBody("<p><a href=\"\">|<h1/></a></p>");
     }
 
+    /** Every element of a page in every one that may hold some; what may not be there is wrong itself. */
+    private static void eachInEach() {
+        Desk.sentence("BLOCKS: p, h1 to h6, hr, pre, blockquote, ul, ol. INLINES: text, em, strong, code, a, br, img.");
+        String blocks = " p h1 h2 h3 h4 h5 h6 hr pre blockquote ul ol ";
+        String inlines = " em strong code a br img ";
+        for (String held : (blocks + inlines + " li html head title body x").trim().split(" +")) {
+            String whole = whole(held);
+            boolean block = blocks.contains(" " + held + " ");
+            boolean inline = inlines.contains(" " + held + " ");
+            in("", whole, "", block);
+            in("<blockquote>", whole, "</blockquote>", block);
+            in("<ul>", whole, "</ul>", held.equals("li"));
+            in("<ol>", whole, "</ol>", held.equals("li"));
+            in("<ul><li>", whole, "</li></ul>", block || inline);
+            for (String around : WITH_TEXT) {
+                in("<" + around + ">", whole, "</" + around + ">", inline);
+            }
+            in("<p><em>", whole, "</em></p>", inline);
+            in("<p><strong>", whole, "</strong></p>", inline);
+            in("<p><a href=\"\">", whole, "</a></p>", inline && !held.equals("a"));
+            in("<p><code>", whole, "</code></p>", false);
+            in("<pre><code>", whole, "</code></pre>", false);
+            in("<hr>", whole, "</hr>", false);
+            in("<p><br>", whole, "</br></p>", false);
+            in("<p><img src=\"\" alt=\"\">", whole, "</img></p>", false);
+            Desk.noPage("<html><head><title>|" + whole + "</title></head><body/></html>");
+        }
+    }
+
+    private static void in(String ahead, String element, String behind, boolean may) {
+        if (may) {
+            inBody(ahead + element + behind);
+        } else {
+            notInBody(ahead + "|" + element + behind);
+        }
+    }
+
+    private static String whole(String name) {
+        switch (name) {
+            case "a":
+                return "<a href=\"\"/>";
+            case "img":
+                return "<img src=\"\" alt=\"\"/>";
+            case "pre":
+                return "<pre><code/></pre>";
+            case "head":
+                return "<head><title/></head>";
+            case "html":
+                return "<html><head><title/></head><body/></html>";
+            default:
+                return "<" + name + "/>";
+        }
+    }
+
     private static void aInA() {
         Desk.sentence("no a in an a, however deep");
         String inner = "<a href=\"\"/>";
@@ -242,6 +298,41 @@ public final class EdgesOfPagesTest {
         notInBody("|<p ID=\"1\"/>");
         notInBody("|<p i=\"1\"/>");
         notInBody("|<p id=\"1\" idd=\"1\"/>");
+    }
+
+    /** Every element of a page with every attribute of a page, and some of none. */
+    private static void onlyWhereTold() {
+        Desk.sentence("Attributes: (each where it is told, and nowhere else)");
+        String all = "<html><head><title/></head><body><p><em/><strong/><code/><a href=\"\"/><br/><img src=\"\" alt=\"\"/></p>"
+            + "<h1/><h2/><h3/><h4/><h5/><h6/><hr/><pre><code/></pre><blockquote/><ul><li/></ul><ol/></body></html>";
+        for (int at = all.indexOf('<'); at >= 0; at = all.indexOf('<', at + 1)) {
+            int past = at + 1;
+            while (Character.isLetterOrDigit(all.charAt(past))) {
+                past++;
+            }
+            String name = all.substring(at + 1, past);
+            String tag = all.substring(at, all.indexOf('>', at));
+            for (String attribute : new String[] {"id", "href", "title", "src", "alt", "class", "start", "lang", "style"}) {
+                if (!name.isEmpty() && !tag.contains(" " + attribute + "=")) {
+                    String changed = " " + attribute + "=\"1\"" + all.substring(past);
+                    withAttribute(all.substring(0, at), "<" + name + changed, isTold(name, attribute));
+                }
+            }
+        }
+    }
+
+    private static void withAttribute(String ahead, String element, boolean told) {
+        if (told) {
+            Desk.page(ahead + element);
+        } else {
+            Desk.noPage(ahead + "|" + element);
+        }
+    }
+
+    private static boolean isTold(String name, String attribute) {
+        String place = name + " " + attribute;
+        return attribute.equals("id") || place.equals("a title") || place.equals("img title")
+            || place.equals("code class") || place.equals("ol start");
     }
 
     private static void onA() {
